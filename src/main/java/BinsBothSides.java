@@ -36,7 +36,7 @@ public final class BinsBothSides {
     private static final int EMPTIED = 2;
     private static final int LEFT = 3;
 
-    /** Far above what all bins of a street can weigh: a lorry that is never full. */
+    /** Far above what all bins of a street can weigh, and any sum of days: no bound. */
     private static final int WITHOUT_END = 1000000;
 
     private static final int SHEET_BYTES = 0;
@@ -1758,9 +1758,9 @@ public final class BinsBothSides {
             first = firstDay;
             latest = latestDay;
             mostSeconds = seconds;
-            foundSum = Integer.MAX_VALUE;
+            foundSum = WITHOUT_END;
             spreadFrom(0, 0);
-            return foundSum < Integer.MAX_VALUE;
+            return foundSum < WITHOUT_END;
         }
 
         /** Ways come by their rows, the least first, so that one must have a lesser sum to be better. */
