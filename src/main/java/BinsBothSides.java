@@ -994,7 +994,6 @@ public final class BinsBothSides {
 
         /** Reads one line of the text into this street; false where a sign can't stand. */
         boolean read(Text text) {
-            day = 0;
             if (!text.accept('s')) {
                 return false;
             }

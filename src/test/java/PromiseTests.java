@@ -12,6 +12,7 @@ public final class PromiseTests {
         end();
         streets();
         streetsFaults();
+        streetsAfterFaults();
         rule();
         ruleFaults();
         street();
@@ -127,6 +128,17 @@ public final class PromiseTests {
         Check.due("P4 X 99", x.street(4, 0), 99);
     }
 
+    /** What a refused text told is gone. */
+    private static void streetsAfterFaults() {
+        BinsBothSides x = new BinsBothSides();
+        Check.due("P4 refused", Check.streets(x, "s9:99999999/99999999!ux1-2?"), -27);
+        Check.due("P4 refused", Check.streets(x, "s9:99/99!ux1-2;s9:99999999/9"), -29);
+        Check.due("P4 two", Check.streets(x, "s1:01/10;s2:0/5"), 2);
+        Check.due("P4 street 0", facts(x, 0), "1 2 0 0 0 -1 -1 2 2");
+        Check.due("P4 street 1", facts(x, 1), "2 1 0 0 0 -1 -1 1 5");
+        Check.due("P4 bins out", x.count(4), 3);
+    }
+
     private static String facts(BinsBothSides x, int s) {
         StringBuilder facts = new StringBuilder();
         for (int what = 0; what <= 8; what++) {
@@ -189,7 +201,7 @@ public final class PromiseTests {
         }
         Check.rule(x, "s*10+b*100+t+u+3");
         Check.due("P5 right, block 1, street 1, down", x.bin(1, 1, 1, 3), 10 + 100 + 1 - 1 + 3);
-        Check.due("P5 refused", Check.rule(x, "1+"), -3);
+        Check.due("P5 refused", Check.rule(x, "7*7+"), -5);
         Check.due("P5 the old rule stays", x.bin(1, 1, 1, 3), 113);
         Check.due("P5 cut to 0", Check.rule(x, "10+(0-7)/2"), 0);
         Check.due("P5 cut to 0, seconds", x.bin(0, 0, 0, 3), 7);
@@ -298,6 +310,8 @@ public final class PromiseTests {
         Check.due("P9 dayOf(1, 3)", x.dayOf(1, 3), 6);
         Check.due("P9 DAY", x.street(1, 4), 3);
         Check.due("P9 DAY of the other", x.street(0, 4), 0);
+        Check.due("P9 dayOf(1, 0)", x.dayOf(1, 0), 3);
+        Check.due("P9 DAY", x.street(1, 4), 0);
         int[][] wrong = {{2, 0}, {-1, 0}, {0, -1}, {0, 7}, {MIN, MAX}};
         for (int[] call : wrong) {
             Check.due("P9 dayOf(" + call[0] + ", " + call[1] + ")", x.dayOf(call[0], call[1]), -1);
@@ -360,7 +374,9 @@ public final class PromiseTests {
         Check.due("P12 nothing is out: moves", x.empty(0, 0), 20);
         Check.due("P12 the row", Check.row(x), "0 0 0 0");
         Check.due("P12 nothing is out: how 1", x.empty(0, 1), 10);
+        x.best(0);
         Check.due("P12 nothing is out: how 2", x.empty(0, 2), 0);
+        Check.due("P12 the row of 0 SECONDS", Check.row(x), "0 0 0 0");
         x.week();
         x.drive(0);
         Check.due("P12 how 1", x.empty(0, 1), 34);
@@ -383,6 +399,10 @@ public final class PromiseTests {
         Check.due("P12 nothing to undo of it", x.count(8), 5);
         x.pause(1);
         Check.due("P12 minute 3", x.empty(0, 1), 9 + 14);
+        BinsBothSides y = Check.town("s0:9/0x0-0");
+        Check.due("P12 barred from 0 to 0", y.empty(0, 2), -3);
+        y.pause(60);
+        Check.due("P12 minute 1", y.empty(0, 2), 11);
     }
 
     private static void emptyFullAndLeft() {
@@ -457,6 +477,8 @@ public final class PromiseTests {
         Check.due("P15 LEFT", x.count(6), 1);
         Check.due("P15 week()", x.week(), 4);
         Check.due("P15 the state", Check.state(x), "0 0 0 111010");
+        Check.due("P15 EMPTIED", x.count(5), 0);
+        Check.due("P15 LEFT", x.count(6), 0);
         Check.due("P15 undo()", x.undo(), 2);
         Check.due("P15 the state ahead", Check.state(x), "10 7 117 232010");
     }
@@ -481,14 +503,19 @@ public final class PromiseTests {
         Check.due("P16 4 digits", Check.round(x, "p9999;p0;p007"), 3);
         Check.due("P16 the row", Check.row(x), "0 0 10006");
         Check.due("P16 30 acts", Check.round(new BinsBothSides(), "t;t;t;t;t;t;t;t;t;t;t;t;t;t;t;t;t;t;t;t;t;t;t;t;t;t;t;t;t;t"), 30);
+        BinsBothSides y = Check.town("s0:1/0");
+        Check.due("P16 acts that answer 0 are done", Check.round(y, "g0;p0;g0;t"), 4);
+        Check.due("P16 undo()", y.undo(), 0);
+        Check.due("P16 one act", Check.round(y, "p0;g1"), 1);
+        Check.due("P16 one act can be undone", y.count(8), 1);
         Check.due("P16 g9", Check.round(x, "g9"), 0);
         Check.due("P16 the row", Check.row(x), "1 0 0");
     }
 
     private static void roundFaults() {
         BinsBothSides x = Check.town(TWO);
-        String[] texts = {"x", "g", "gx", "g0;", "g0g", "e", "e0", "e03", "e021", "tt", "t;", "p", "px", "p12345", "g00", ";", "t; "};
-        int[] places = {0, 1, 1, 3, 2, 1, 2, 2, 3, 1, 2, 1, 1, 5, 2, 0, 2};
+        String[] texts = {"x", "g", "gx", "g0;", "g0g", "e", "e0", "e03", "e021", "tt", "t;", "p", "px", "p12345", "g00", ";", "t; ", "g:", "e:0", "e0:", "p:", "g/"};
+        int[] places = {0, 1, 1, 3, 2, 1, 2, 2, 3, 1, 2, 1, 1, 5, 2, 0, 2, 1, 1, 2, 1, 1};
         x.tip();
         for (int i = 0; i < texts.length; i++) {
             Check.due("P16 " + texts[i], Check.round(x, texts[i]), -1 - places[i]);
@@ -513,6 +540,7 @@ public final class PromiseTests {
         Check.due("P17 NOW", x.count(3), 171);
         for (int i = 13; i >= 0; i--) {
             Check.due("P17 undo()", x.undo(), i);
+            Check.due("P17 NOW", x.count(3), (i + 5) * (i + 4) / 2);
         }
         Check.due("P17 undo() of none", x.undo(), -1);
         Check.due("P17 the latest ones", x.count(3), 10);
