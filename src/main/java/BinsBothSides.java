@@ -26,6 +26,12 @@ public final class BinsBothSides {
 
     private static final int MINUTE = 60;
     private static final int TIPPING = 300;
+    private static final int DRIVING = 10;
+    private static final int BLOCK_AHEAD = 5;
+    private static final int BLOCK_BACKED = 9;
+    private static final int ACROSS = 11;
+    private static final int BLOCK_CARRIED = 4;
+    private static final int LEAVING = 3;
 
     private static final int ONE_SIDE_THEN_OTHER = 0;
     private static final int BOTH_AT_ONCE = 1;
@@ -810,7 +816,7 @@ public final class BinsBothSides {
     }
 
     private static int driving(int from, int to) {
-        return 10 * Math.abs(from - to);
+        return DRIVING * Math.abs(from - to);
     }
 
     /** The signs that came, and how far they are read. */
@@ -892,13 +898,14 @@ public final class BinsBothSides {
 
         /** A number of one digit or more, at most so many; NONE if there is no digit. */
         int number(int mostDigits) {
-            int value = digitBelow(10);
-            for (int i = 1; i < mostDigits && value >= 0; i++) {
-                int digit = digitBelow(10);
-                if (digit < 0) {
+            int value = NONE;
+            for (int i = 0; i < mostDigits; i++) {
+                int digit = look() - '0';
+                if (digit < 0 || digit > 9) {
                     return value;
                 }
-                value = value * 10 + digit;
+                pass();
+                value = i == 0 ? digit : value * 10 + digit;
             }
             return value;
         }
@@ -1287,36 +1294,38 @@ public final class BinsBothSides {
         }
 
         private boolean readProduct(Text text, int depth) {
-            boolean fine = readSigned(text, depth);
+            boolean fine = readThing(text, depth);
             for (int i = 0; i < RULE_SIGNS && fine; i++) {
                 int sign = text.look();
                 if (sign != '*' && sign != '/') {
                     return true;
                 }
                 text.pass();
-                fine = readSigned(text, depth) && write(OPERATORS - sign);
+                fine = readThing(text, depth) && write(OPERATORS - sign);
             }
             return fine;
         }
 
-        private boolean readSigned(Text text, int depth) {
+        private boolean readThing(Text text, int depth) {
             boolean negative = false;
             for (int i = 0; i < RULE_SIGNS && text.accept('-'); i++) {
                 negative = !negative;
             }
-            return readThing(text, depth) && (!negative || write(NEGATE));
+            int number = text.number(3);
+            boolean fine;
+            if (number >= 0) {
+                fine = write(number);
+            } else if (text.look() == '(' && depth < DEEPEST) {
+                text.pass();
+                fine = readComparison(text, depth + 1) && text.accept(')');
+            } else {
+                fine = readLetter(text);
+            }
+            return fine && (!negative || write(NEGATE));
         }
 
-        private boolean readThing(Text text, int depth) {
-            int number = text.number(3);
-            if (number >= 0) {
-                return write(number);
-            }
+        private boolean readLetter(Text text) {
             int sign = text.look();
-            if (sign == '(' && depth < DEEPEST) {
-                text.pass();
-                return readComparison(text, depth + 1) && text.accept(')');
-            }
             int thing = sign < 0 ? NONE : THINGS.indexOf((char) sign);
             if (thing < 0) {
                 return false;
@@ -1343,28 +1352,28 @@ public final class BinsBothSides {
             for (int i = 0; i < size && i < codes.length; i++) {
                 int code = codes[i];
                 if (code >= 0) {
-                    lay(code);
+                    push(code);
                 } else if (code > NEGATE) {
                     int thing = FIRST_THING - code;
-                    lay(thing < facts.length ? facts[thing] : 0);
+                    push(thing < facts.length ? facts[thing] : 0);
                 } else if (code == NEGATE) {
-                    lay(-lift());
+                    push(-pop());
                 } else {
-                    int second = lift();
-                    lay(join(OPERATORS - code, lift(), second));
+                    int second = pop();
+                    push(join(OPERATORS - code, pop(), second));
                 }
             }
-            return clamped(lift());
+            return clamped(pop());
         }
 
-        private void lay(int value) {
+        private void push(int value) {
             if (height < stack.length) {
                 stack[height] = value;
                 height++;
             }
         }
 
-        private int lift() {
+        private int pop() {
             if (height < 1 || height > stack.length) {
                 return 0;
             }
@@ -1434,10 +1443,11 @@ public final class BinsBothSides {
                 if (house >= 0 && (bits >> house & 1) != 0 && size < HOUSES) {
                     int heavy = settings.heavy(street.weightAt(house), settings.get(RAIN));
                     int carried = how == CARRIED ? house % BLOCKS + 1 : 0;
-                    int across = how == BOTH_AT_ONCE && house >= BLOCKS ? 11 : 0;
+                    int across = how == BOTH_AT_ONCE && house >= BLOCKS ? ACROSS : 0;
                     houses[size] = house;
                     heavies[size] = heavy;
-                    takes[size] = heavy > lift ? 3 : byHand(street, house, carried) + 4 * carried + across;
+                    takes[size] = heavy > lift ? LEAVING
+                            : byHand(street, house, carried) + BLOCK_CARRIED * carried + across;
                     would += heavy > lift ? 0 : heavy;
                     size++;
                 }
@@ -1472,10 +1482,10 @@ public final class BinsBothSides {
 
         private static int movesOf(Street street, int how) {
             if (how == ONE_SIDE_THEN_OTHER) {
-                return 10 * street.blocks;
+                return (BLOCK_AHEAD + BLOCK_AHEAD) * street.blocks;
             }
             if (how == BOTH_AT_ONCE) {
-                return (street.deadEnd ? 14 : 5) * street.blocks;
+                return (BLOCK_AHEAD + (street.deadEnd ? BLOCK_BACKED : 0)) * street.blocks;
             }
             return 0;
         }
