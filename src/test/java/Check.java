@@ -92,8 +92,9 @@ final class Check {
     }
 
     static String row(BinsBothSides x) {
+        int numbers = x.count(9);
         StringBuilder row = new StringBuilder();
-        for (int i = 0; i < x.count(9); i++) {
+        for (int i = 0; i < numbers; i++) {
             row.append(i == 0 ? "" : " ").append(x.row(i));
         }
         return row.toString();
@@ -103,11 +104,11 @@ final class Check {
     static String state(BinsBothSides x) {
         StringBuilder state = new StringBuilder();
         state.append(x.count(1)).append(' ').append(x.count(2)).append(' ').append(x.count(3)).append(' ');
-        for (int s = 0; s < x.count(0); s++) {
-            for (int side = 0; side < 2; side++) {
-                for (int block = 0; block < x.street(s, 1); block++) {
-                    state.append(x.bin(s, side, block, 2));
-                }
+        int streets = x.count(0);
+        for (int s = 0; s < streets; s++) {
+            int blocks = x.street(s, 1);
+            for (int house = 0; house < 2 * blocks; house++) {
+                state.append(x.bin(s, house / blocks, house % blocks, 2));
             }
         }
         return state.toString();

@@ -61,63 +61,99 @@ public final class CrossTests {
 
     private static final String[] RULES = {"", "w*2+b", "8+w+u*5", "20-m*3", "c*c+w", "t*5+s*9+r", "(w>5)*30+4", "1", "5+c*9", "w*m+u*20+21"};
 
-    private static void town(int number) {
-        int size = 1 + draw(6);
-        Line[] lines = new Line[size];
-        int[][] all = new int[size][];
-        for (int s = 0; s < size; s++) {
-            lines[s] = new Line();
-            all[s] = lines[s].weights;
+    private static final int NO_STREET = -1;
+    /** So many orders are asked of one object: with what it came about by that stays below its 512 calls. */
+    private static final int ORDERS_OF_ONE = 40;
+
+    private interface Act {
+        int on(BinsBothSides x);
+    }
+
+    /** A town and what was done in it: an object answers 512 calls, so a fresh one in the same state is made for each check. */
+    private static final class Drawn {
+        private final int size = 1 + draw(6);
+        private final Line[] lines = new Line[size];
+        private final int[][] weights = new int[size][];
+        private final String rule = RULES[draw(RULES.length)];
+        private final int[] set = {1 + draw(120), 1 + draw(4), draw(10), 1 + draw(2), 1 + draw(34), draw(100), draw(5) == 0 ? draw(60) : 999};
+        private final List<Act> acts = new ArrayList<>();
+
+        Drawn() {
+            for (int s = 0; s < size; s++) {
+                lines[s] = new Line();
+                weights[s] = lines[s].weights;
+            }
         }
-        String rule = RULES[draw(RULES.length)];
-        int[] set = {1 + draw(120), 1 + draw(4), draw(10), 1 + draw(2), 1 + draw(34), draw(100), draw(5) == 0 ? draw(60) : 999};
-        BinsBothSides x = build(lines, all, rule, set, NO_STREET);
+
+        BinsBothSides fresh() {
+            BinsBothSides x = with(weights, NO_STREET);
+            for (Act act : acts) {
+                act.on(x);
+            }
+            return x;
+        }
+
+        /** The town with other weights, perhaps with one street that goes down; nothing was done in it. */
+        BinsBothSides with(int[][] others, int down) {
+            StringBuilder text = new StringBuilder();
+            for (int s = 0; s < size; s++) {
+                text.append(s == 0 ? "" : ";").append(lines[s].text(others[s], s == down ? -1 : lines[s].hill));
+            }
+            BinsBothSides x = Check.town(text.toString());
+            Check.due("the rule", Check.rule(x, rule), 0);
+            for (int what = 0; what < set.length; what++) {
+                x.set(what, set[what]);
+            }
+            return x;
+        }
+    }
+
+    private static void town(int number) {
+        Drawn town = new Drawn();
         String name = "town " + number;
         for (int step = 0; step < 4; step++) {
-            someActs(x, size);
-            orders(name, x, size, lines);
-            oneStreet(name, x, lines, rule, set);
-            days(name, x, size);
-            odds(name, x, size);
+            someActs(town);
+            orders(name, town);
+            oneStreet(name, town);
+            days(name, town.fresh(), town.size);
+            odds(name, town.fresh(), town.size);
         }
-        weeksByHand(name, x, lines, rule, set);
-        rubble(name, x, size);
+        weeksByHand(name, town);
+        rubble(name, town.fresh(), town.size);
     }
 
-    private static final int NO_STREET = -1;
-
-    /** The town with other weights, perhaps with one street that goes down. */
-    private static BinsBothSides build(Line[] lines, int[][] weights, String rule, int[] set, int down) {
-        StringBuilder text = new StringBuilder();
-        for (int s = 0; s < lines.length; s++) {
-            text.append(s == 0 ? "" : ";").append(lines[s].text(weights[s], s == down ? -1 : lines[s].hill));
+    private static Act drawnAct(int size) {
+        int s = draw(size);
+        int n = draw(600);
+        switch (draw(5)) {
+            case 0: return x -> x.drive(s);
+            case 1: return x -> x.empty(0, n % 3);
+            case 2: return BinsBothSides::tip;
+            case 3: return x -> x.pause(n);
+            default: return BinsBothSides::week;
         }
-        BinsBothSides x = Check.town(text.toString());
-        Check.due("the rule", Check.rule(x, rule), 0);
-        for (int what = 0; what < set.length; what++) {
-            x.set(what, set[what]);
-        }
-        return x;
     }
 
-    private static void someActs(BinsBothSides x, int size) {
+    private static void someActs(Drawn town) {
         for (int i = draw(6); i > 0; i--) {
+            BinsBothSides x = town.fresh();
+            if (draw(2) == 0) {
+                Act there = y -> y.drive(0);
+                there.on(x);
+                town.acts.add(there);
+            }
             String before = Check.state(x);
             int could = x.count(8);
-            int answer;
-            switch (draw(5)) {
-                case 0: answer = x.drive(draw(size)); break;
-                case 1: x.drive(0); before = Check.state(x); could = x.count(8); answer = x.empty(0, draw(3)); break;
-                case 2: answer = x.tip(); break;
-                case 3: answer = x.pause(draw(600)); break;
-                default: answer = x.week(); break;
-            }
-            if (answer < 0) {
+            Act act = drawnAct(town.size);
+            if (act.on(x) < 0) {
                 Check.due("a refused act changes nothing", Check.state(x), before);
                 Check.due("a refused act can't be undone", x.count(8), could);
             } else if (draw(2) == 0) {
                 Check.due("what is left to undo", x.undo(), Math.min(15, could + 1) - 1);
                 Check.due("undone", Check.state(x), before);
+                Check.due("what could be undone", x.count(8), Math.min(14, could));
+            } else {
+                town.acts.add(act);
             }
         }
     }
@@ -131,27 +167,25 @@ public final class CrossTests {
     /** What a street would load. */
     private static int would(BinsBothSides x, int s) {
         int lift = get(x, 4, 1);
+        int blocks = x.street(s, 1);
         int sum = 0;
-        for (int side = 0; side < 2; side++) {
-            for (int block = 0; block < x.street(s, 1); block++) {
-                int heavy = x.bin(s, side, block, 1);
-                sum += x.bin(s, side, block, 2) == 1 && heavy <= lift ? heavy : 0;
-            }
+        for (int house = 0; house < 2 * blocks; house++) {
+            int heavy = x.bin(s, house % 2, house / 2, 1);
+            sum += x.bin(s, house % 2, house / 2, 2) == 1 && heavy <= lift ? heavy : 0;
         }
         return sum;
     }
 
     /** SECONDS, how often it tipped, BINS that stay out; or -200: by driving, pausing, emptying, tipping. */
     private static long[] byActs(BinsBothSides x, String path) {
-        x.keep(1);
         int begun = x.count(3);
         int tips = 0;
         long[] none = {-200};
         for (int i = 0; i < path.length(); i++) {
             int s = path.charAt(i) - '0';
-            if (x.count(2) != 0 && x.count(2) + would(x, s) > x.count(11)) {
+            int load = x.count(2);
+            if (load != 0 && load + would(x, s) > x.count(11)) {
                 if (x.tip() < 0) {
-                    x.again(1);
                     return none;
                 }
                 tips++;
@@ -160,8 +194,8 @@ public final class CrossTests {
             int how = x.best(s);
             if (x.empty(s, how) == -3) {
                 int opens = (x.street(s, 6) + 1) * 60;
-                while (x.count(3) < opens) {
-                    x.pause(Math.min(9999, opens - x.count(3)));
+                for (int now = x.count(3); now < opens; now = x.count(3)) {
+                    x.pause(Math.min(9999, opens - now));
                 }
                 Check.due("open now", x.empty(s, how) >= 0, true);
             }
@@ -172,7 +206,6 @@ public final class CrossTests {
             out += x.street(path.charAt(i) - '0', 7);
         }
         long[] answer = {x.count(3) - begun, tips + 1, out};
-        x.again(1);
         return shut < 0 ? none : answer;
     }
 
@@ -195,23 +228,23 @@ public final class CrossTests {
         return bits;
     }
 
-    private static void orders(String name, BinsBothSides x, int size, Line[] lines) {
-        int those = draw(1 << size);
+    private static void orders(String name, Drawn town) {
+        int those = draw(1 << town.size);
         List<String> paths = new ArrayList<>();
         paths("", those, paths);
+        BinsBothSides x = town.fresh();
         int bestAll = Integer.MAX_VALUE;
         String best = "";
-        int by = x.count(3) + draw(6000);
+        int now = x.count(3);
+        int by = now + draw(6000);
         int most = 0;
         int mostBits = 0;
-        for (String path : paths) {
+        for (int i = 0; i < paths.size(); i++) {
+            String path = paths.get(i);
+            x = i % ORDERS_OF_ONE == 0 ? town.fresh() : x;
             int seconds = Check.order(x, path);
             if (draw(paths.size()) < 10) {
-                long[] acts = byActs(x, path);
-                Check.due(name + ", order " + path, Check.order(x, path), acts[0]);
-                if (acts[0] >= 0) {
-                    Check.due(name + ", row of order " + path, Check.row(x), acts[1] + " " + acts[2]);
-                }
+                orderByActs(name, town, path);
             }
             int bits = bits(path);
             if (seconds >= 0 && bits == those && seconds < bestAll) {
@@ -219,11 +252,12 @@ public final class CrossTests {
                 best = path;
             }
             int count = path.length();
-            if (seconds >= 0 && x.count(3) + seconds <= by && (count > most || count == most && bits < mostBits)) {
+            if (seconds >= 0 && now + seconds <= by && (count > most || count == most && bits < mostBits)) {
                 most = count;
                 mostBits = bits;
             }
         }
+        x = town.fresh();
         Check.due(name + ", most(" + those + ", " + by + ")", x.most(those, by), most);
         Check.due(name + ", row of most", Check.row(x), "" + mostBits);
         int soonest = x.soonest(those);
@@ -233,20 +267,27 @@ public final class CrossTests {
         }
     }
 
+    private static void orderByActs(String name, Drawn town, String path) {
+        long[] acts = byActs(town.fresh(), path);
+        BinsBothSides x = town.fresh();
+        Check.due(name + ", order " + path, Check.order(x, path), acts[0]);
+        if (acts[0] >= 0) {
+            Check.due(name + ", row of order " + path, Check.row(x), acts[1] + " " + acts[2]);
+        }
+    }
+
     private static int bestSeconds(BinsBothSides x, int s) {
         return (int) Math.min(x.takes(s, 0), Math.min(x.takes(s, 1), x.takes(s, 2)));
     }
 
-    /** The same street, of which just these bins are out (the others have no weight). */
+    /** The same street, of which just the nearest bins that are out have a weight, at most so many. */
     private static int[] outWeights(BinsBothSides x, Line line, int s, int mostBins) {
         int[] weights = new int[2 * line.blocks];
         int bins = 0;
-        for (int block = 0; block < line.blocks; block++) {
-            for (int side = 0; side < 2; side++) {
-                if (x.bin(s, side, block, 2) == 1 && bins < mostBins) {
-                    weights[side * line.blocks + block] = x.bin(s, side, block, 0);
-                    bins++;
-                }
+        for (int house = 0; house < 2 * line.blocks && bins < mostBins; house++) {
+            if (x.bin(s, house % 2, house / 2, 2) == 1) {
+                weights[house % 2 * line.blocks + house / 2] = x.bin(s, house % 2, house / 2, 0);
+                bins++;
             }
         }
         return weights;
@@ -260,12 +301,13 @@ public final class CrossTests {
         return weights;
     }
 
-    private static void oneStreet(String name, BinsBothSides x, Line[] lines, String rule, int[] set) {
-        int s = draw(lines.length);
-        int[][] weights = blanks(lines);
-        weights[s] = outWeights(x, lines[s], s, 16);
+    private static void oneStreet(String name, Drawn town) {
+        BinsBothSides x = town.fresh();
+        int s = draw(town.size);
+        int[][] weights = blanks(town.lines);
+        weights[s] = outWeights(x, town.lines[s], s, 16);
         int now = bestSeconds(x, s);
-        Check.due(name + ", hill(" + s + ")", x.hill(s), now - bestSeconds(build(lines, weights, rule, set, s), s));
+        Check.due(name + ", hill(" + s + ")", x.hill(s), now - bestSeconds(town.with(weights, s), s));
         int men = get(x, 1, 1);
         if (men > 1) {
             x.set(1, men - 1);
@@ -277,6 +319,12 @@ public final class CrossTests {
         } else {
             Check.due(name + ", less(" + s + ")", x.less(s), -2);
         }
+        wet(name, town.fresh(), s);
+        line(name, town, s);
+        tipnow(name, town.fresh(), s);
+    }
+
+    private static void wet(String name, BinsBothSides x, int s) {
         int rain = get(x, 2, 0);
         int v = draw(10);
         x.set(2, v);
@@ -285,16 +333,15 @@ public final class CrossTests {
         x.set(2, rain);
         Check.due(name + ", wet(" + s + ", " + v + ")", x.wet(s, v), weigh);
         Check.due(name + ", row of wet: any is LEFT", x.row(0) > 0, fits < weigh);
-        line(name, x, s, lines, rule, set);
-        tipnow(name, x, s);
     }
 
-    private static void line(String name, BinsBothSides x, int s, Line[] lines, String rule, int[] set) {
+    private static void line(String name, Drawn town, int s) {
+        BinsBothSides x = town.fresh();
         int bins = x.street(s, 7);
-        int[][] weights = blanks(lines);
+        int[][] weights = blanks(town.lines);
         for (int more = 1; more <= bins; more++) {
-            weights[s] = outWeights(x, lines[s], s, more);
-            BinsBothSides y = build(lines, weights, rule, set, NO_STREET);
+            weights[s] = outWeights(town.fresh(), town.lines[s], s, more);
+            BinsBothSides y = town.with(weights, NO_STREET);
             int driven = Math.min(y.takes(s, 0), y.takes(s, 1));
             if (y.takes(s, 2) > driven) {
                 Check.due(name + ", line(" + s + ")", x.line(s), more - 1);
@@ -456,7 +503,7 @@ public final class CrossTests {
         Check.due(name + ", care(" + s + ", " + v + ")", x.care(s, v), least);
     }
 
-    private static void weeksByHand(String name, BinsBothSides x, Line[] lines, String rule, int[] set) {
+    private static void weeksByHand(String name, Drawn town) {
         int seed = DRAW.nextInt();
         int p = draw(11);
         int n = 1 + draw(20);
@@ -465,39 +512,50 @@ public final class CrossTests {
         int fewest = Integer.MAX_VALUE;
         int most = -1;
         for (int week = 0; week < n; week++) {
-            int[][] weights = blanks(lines);
+            int[][] weights = blanks(town.lines);
             StringBuilder path = new StringBuilder();
-            for (int s = 0; s < lines.length; s++) {
+            for (int s = 0; s < town.size; s++) {
                 path.append(s);
                 for (int i = 0; i < weights[s].length; i++) {
-                    if (lines[s].weights[i] != 0) {
+                    if (town.weights[s][i] != 0) {
                         chance = chance * 1103515245 + 12345;
                         if ((chance & 0xffffffffL) / 65536 % 10 < p) {
-                            weights[s][i] = lines[s].weights[i];
+                            weights[s][i] = town.weights[s][i];
                         }
                     }
                 }
             }
-            int seconds = Check.order(build(lines, weights, rule, set, NO_STREET), path.toString());
+            int seconds = Check.order(town.with(weights, NO_STREET), path.toString());
             if (seconds >= 0) {
                 open++;
                 fewest = Math.min(fewest, seconds);
                 most = Math.max(most, seconds);
             }
         }
+        BinsBothSides x = town.fresh();
         String before = Check.state(x);
         Check.due(name + ", weeks(" + seed + ", " + n + ", " + p + ")", x.weeks(seed, n, p), open);
         Check.due(name + ", row of weeks", Check.row(x), open == 0 ? "-1 -1" : fewest + " " + most);
         Check.due(name + ", weeks() changes nothing", Check.state(x), before);
     }
 
-    /** HEAVY of all bins of the streets, and d more if the house is of one of them. */
-    private static int heavy(BinsBothSides x, int those, int s, int d) {
-        int sum = (those >> s & 1) * d;
-        for (int t = 0; t < x.count(0); t++) {
-            for (int i = 0; i < 2 * x.street(t, 1) && (those >> t & 1) != 0; i++) {
-                sum += x.bin(t, i % 2, i / 2, 1);
+    /** HEAVY of all bins of each street. */
+    private static int[] heavies(BinsBothSides x, int size) {
+        int[] heavies = new int[size];
+        for (int s = 0; s < size; s++) {
+            int houses = 2 * x.street(s, 1);
+            for (int i = 0; i < houses; i++) {
+                heavies[s] += x.bin(s, i % 2, i / 2, 1);
             }
+        }
+        return heavies;
+    }
+
+    /** HEAVY of all bins of the streets, and d more if the house is of one of them. */
+    private static int heavy(int[] heavies, int those, int s, int d) {
+        int sum = (those >> s & 1) * d;
+        for (int t = 0; t < heavies.length; t++) {
+            sum += (those >> t & 1) * heavies[t];
         }
         return sum;
     }
@@ -505,10 +563,11 @@ public final class CrossTests {
     private static void rubble(String name, BinsBothSides x, int size) {
         int guilty = draw(size);
         int rubble = draw(6) == 0 ? 0 : draw(105);
+        int[] heavies = heavies(x, size);
         List<int[]> loads = new ArrayList<>();
         for (int i = draw(5); i > 0; i--) {
             int those = draw(1 << size);
-            int v = heavy(x, those, guilty, rubble) + (draw(12) == 0 ? 1 : 0);
+            int v = heavy(heavies, those, guilty, rubble) + (draw(12) == 0 ? 1 : 0);
             loads.add(new int[] {those, v});
             Check.due(name + ", weighed()", x.weighed(those, v), loads.size());
         }
@@ -517,23 +576,20 @@ public final class CrossTests {
         int streets = 0;
         String first = "";
         for (int s = 0; s < size; s++) {
-            for (int side = 0; side < 2; side++) {
-                for (int block = 0; block < x.street(s, 1); block++) {
-                    for (int d = 1; d <= 99; d++) {
-                        if (explains(x, loads, s, d)) {
-                            pairs[s]++;
-                            all++;
-                            streets |= 1 << s;
-                            first = first.isEmpty() ? s + " " + side + " " + block + " " + d : first;
-                        }
-                    }
+            int houses = 2 * x.street(s, 1);
+            for (int d = 1; d <= 99; d++) {
+                if (explains(heavies, loads, s, d)) {
+                    pairs[s] += houses;
+                    all += houses;
+                    streets |= 1 << s;
+                    first = first.isEmpty() ? s + " 0 0 " + d : first;
                 }
             }
         }
         Check.due(name + ", rubble()", x.rubble(), all);
         Check.due(name + ", row of rubble", Check.row(x), first);
         Check.due(name + ", whose()", x.whose(), streets);
-        Check.due(name + ", row of whose", Check.row(x), explains(x, loads, 0, 0) ? "1" : "0");
+        Check.due(name + ", row of whose", Check.row(x), explains(heavies, loads, 0, 0) ? "1" : "0");
         int least = Integer.MAX_VALUE;
         int best = -2;
         for (int set = 0; set < 1 << size && all > 0; set++) {
@@ -553,9 +609,9 @@ public final class CrossTests {
         Check.due(name + ", forget()", x.forget(), loads.size());
     }
 
-    private static boolean explains(BinsBothSides x, List<int[]> loads, int s, int d) {
+    private static boolean explains(int[] heavies, List<int[]> loads, int s, int d) {
         for (int[] load : loads) {
-            if (load[1] != heavy(x, load[0], s, d)) {
+            if (load[1] != heavy(heavies, load[0], s, d)) {
                 return false;
             }
         }
