@@ -234,7 +234,7 @@ public final class BinsBothSides {
         int begun = state.now;
         int emptied = state.countOf(EMPTIED);
         int done = 0;
-        while (done < size && act(acts[done]) >= 0) {
+        while (done < size && done < acts.length && act(acts[done]) >= 0) {
             done++;
         }
         if (done > 0) {
@@ -1211,8 +1211,10 @@ public final class BinsBothSides {
             if (size >= MOST) {
                 dropOldest();
             }
-            states[size].become(before);
-            size++;
+            if (size >= 0 && size < states.length) {
+                states[size].become(before);
+                size++;
+            }
         }
 
         boolean back(State state) {
@@ -1754,7 +1756,7 @@ public final class BinsBothSides {
             movedCount = 0;
             for (int s = 0; s < town.size && s < moved.length; s++) {
                 Street street = town.at(s);
-                if (street != null && street.day == day) {
+                if (street != null && street.day == day && movedCount < moved.length) {
                     moved[movedCount] = s;
                     movedCount++;
                 }
@@ -1783,7 +1785,7 @@ public final class BinsBothSides {
                 return;
             }
             int seconds = secondsOf(1 << moved[i]);
-            for (int day = first; day <= latest && day < byDay.length; day++) {
+            for (int day = Math.max(0, first); day <= latest && day < byDay.length; day++) {
                 if (byDay[day] + seconds <= mostSeconds) {
                     byDay[day] += seconds;
                     tried[i] = day;

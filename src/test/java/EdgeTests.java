@@ -662,6 +662,34 @@ public final class EdgeTests {
         Check.due("P17 the first of 16 is forgotten", x.undo(), -1);
         Check.due("P17 and stays done", Check.state(x), states[1]);
         undoForgets();
+        undoOfBinsAndLorryAlone();
+    }
+
+    /** "BINS, LOAD, X, NOW are as ahead of it", and nothing else; so it is with again(). */
+    private static void undoOfBinsAndLorryAlone() {
+        for (int kind = 0; kind < 2; kind++) {
+            BinsBothSides x = Check.town("s0:19/20;s7:3/0");
+            x.keep(0);
+            x.pause(1);
+            x.set(2, 7);
+            x.set(1, 4);
+            x.dayOf(1, 5);
+            x.sheet(2, 2, 3, 5);
+            Check.rule(x, "b+6");
+            x.weighed(1, 1);
+            x.best(0);
+            x.sign(0);
+            Check.due("P17, P40 done", kind == 0 ? x.undo() == 0 : x.again(0), true);
+            Check.due("P17, P40 NOW", x.count(3), 0);
+            Check.due("P17, P40 RAIN", x.set(2, 0), 7);
+            Check.due("P17, P40 MEN", x.set(1, 1), 4);
+            Check.due("P17, P40 DAY", x.street(1, 4), 5);
+            Check.due("P17, P40 X of streets", x.street(0, 0) * 10 + x.street(1, 0), 38);
+            Check.due("P17, P40 THE RULE", x.bin(0, 0, 1, 3), 7);
+            Check.due("P17, P40 what was weighed", x.count(7), 1);
+            Check.due("P17, P40 the row", x.count(9), 3);
+            Check.due("P17, P40 the text", x.count(10), 4);
+        }
     }
 
     private static void undoForgets() {
@@ -750,6 +778,10 @@ public final class EdgeTests {
         Check.due("P20 its row", Check.row(x), "2");
         Check.rule(x, "(m=2)*8+2");
         Check.due("P20 one fewer comes with its row", x.less(0), 6 - 7);
+        Check.rule(x, "(m=2)*10+2");
+        x.best(0);
+        Check.due("P20 two fewer is no reason", x.less(0), 6 - 8);
+        Check.due("P20 it comes with its row", Check.row(x), "2");
         Check.rule(x, "(m=2)*30+3-(m<2)*2+(m<2)*c*9");
         Check.due("P20 two fewer, and the HOW that is best then", x.less(0), 6 - 19);
         Check.due("P20 its row", Check.row(x), "1");
@@ -869,6 +901,10 @@ public final class EdgeTests {
         even.set(4, 5);
         Check.due("P24 as much as LIFT would be loaded", Check.order(even, "01"), 600 + 9 + 100 + 300 + 200 + 9 + 500);
         Check.due("P24 the row", Check.row(even), "2 0");
+        BinsBothSides best = oneMan("s0:9/0", "9+c*9");
+        best.set(0, 8);
+        Check.due("P24 by its best(), FULL without end: moves though nothing fits", Check.order(best, "0"), 5 + 800);
+        Check.due("P24 the row", Check.row(best), "1 1");
         BinsBothSides y = Check.town("s10:5/0;s20:6/0");
         y.set(6, 8);
         Check.due("P24 there in MINUTE 8", Check.order(y, "0"), 100 + 9 + 400 + 300);
@@ -1082,6 +1118,12 @@ public final class EdgeTests {
         two.dayOf(1, 1);
         Check.due("P30 DAY 1", two.busiest(), 1);
         Check.due("P30 the row", Check.row(two), "20 0");
+        two.set(0, 1);
+        Check.due("P30 FULL without end", two.busiest(), 1);
+        two.set(0, 2);
+        two.empty(1, 2);
+        Check.due("P30 as its BINS are: DAY 0 now", two.busiest(), 0);
+        Check.due("P30 the row", Check.row(two), "10 0");
         BinsBothSides six = oneMan("s0:1/0;s0:2/0;s0:3/0;s0:4/0;s0:5/0;s0:5/0", "w*10-4");
         for (int s = 0; s < 6; s++) {
             six.dayOf(s, s + 1);
@@ -1225,6 +1267,10 @@ public final class EdgeTests {
         Check.due("P36 16 bins, p 7", Check.row(x), "33232930569601 10000000000000000");
         x.right(2, 8);
         Check.due("P36 16 bins, p 8", Check.row(x), "4294967296 152587890625");
+        x.empty(0, 2);
+        x.right(0, 0);
+        Check.due("P36 none is out any more", Check.row(x), "1 1");
+        Check.due("P37 none is out any more", x.care(0, 100), 0);
         Check.due("P36 p 11", x.right(0, 11), -1);
         Check.due("P36 p -1", x.right(0, -1), -1);
         Check.due("P36 street 3 of three", x.right(3, 5), -1);
