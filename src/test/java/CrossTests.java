@@ -277,7 +277,7 @@ public final class CrossTests {
     }
 
     private static int bestSeconds(BinsBothSides x, int s) {
-        return (int) Math.min(x.takes(s, 0), Math.min(x.takes(s, 1), x.takes(s, 2)));
+        return Math.min(x.takes(s, 0), Math.min(x.takes(s, 1), x.takes(s, 2)));
     }
 
     /** The same street, of which just the nearest bins that are out have a weight, at most so many. */
