@@ -901,6 +901,13 @@ public final class EdgeTests {
         even.set(4, 5);
         Check.due("P24 as much as LIFT would be loaded", Check.order(even, "01"), 600 + 9 + 100 + 300 + 200 + 9 + 500);
         Check.due("P24 the row", Check.row(even), "2 0");
+        BinsBothSides three = Check.town("s50:4/0;s50:4/0;s50:4/0");
+        three.set(0, 12);
+        Check.due("P24 all that two loaded, and just room for the third", Check.order(three, "012"), 500 + 3 * 8 + 300);
+        Check.due("P24 the row", Check.row(three), "1 0");
+        three.set(0, 11);
+        Check.due("P24 all that two loaded, and no room for the third", Check.order(three, "012"), 500 + 2 * 8 + 300 + 8 + 300);
+        Check.due("P24 the row", Check.row(three), "2 0");
         BinsBothSides best = oneMan("s0:9/0", "9+c*9");
         best.set(0, 8);
         Check.due("P24 by its best(), FULL without end: moves though nothing fits", Check.order(best, "0"), 5 + 800);
@@ -1227,6 +1234,12 @@ public final class EdgeTests {
         x.weighed(48, 2);
         Check.due("P34 4 alone", x.whose(), 16);
         Check.due("P34 not so", Check.row(x), "0");
+        x.forget();
+        Check.due("P34 what is forgotten does not count: all", x.whose(), 63);
+        Check.due("P34 so without any", Check.row(x), "1");
+        x.weighed(33, 2);
+        Check.due("P34 nor does it behind others", x.whose(), 30);
+        Check.due("P34 so without any", Check.row(x), "1");
     }
 
     /** "(bits; none, too)"; "of as good ones the least bits"; "-2: there is no such pair". */
