@@ -1,3 +1,4 @@
+import java.math.BigInteger;
 import java.util.ArrayDeque;
 import java.util.ArrayList;
 import java.util.Deque;
@@ -1177,12 +1178,12 @@ final class Model {
             return NONE;
         }
         int bins = bins(roads.get(s)).size();
-        for (int p = 0; true; p++) {
-            java.math.BigInteger upper = java.math.BigInteger.valueOf(p).pow(bins).multiply(java.math.BigInteger.valueOf(100));
-            if (upper.compareTo(java.math.BigInteger.TEN.pow(bins).multiply(java.math.BigInteger.valueOf(v))) >= 0) {
-                return p;
-            }
+        BigInteger due = BigInteger.TEN.pow(bins).multiply(BigInteger.valueOf(v));
+        int p = 0;
+        while (BigInteger.valueOf(p).pow(bins).multiply(BigInteger.valueOf(100)).compareTo(due) < 0) {
+            p++;
         }
+        return p;
     }
 
     int weeks(int seed, int n, int p) {
