@@ -43,6 +43,7 @@ public final class EdgeTests {
         orderText();
         orderTip();
         orderBarred();
+        ordersWithLoad();
         soonest();
         most();
         tipnow();
@@ -314,6 +315,9 @@ public final class EdgeTests {
         Check.due("P6 the least from", x.street(1, 5), 0);
         Check.due("P6 the greatest to", x.street(1, 6), 999);
         Check.due("P6 the last what", x.street(0, 8), 36);
+        x.set(4, 8);
+        Check.due("P6 those too heavy are out, too", x.street(0, 7), 4);
+        Check.due("P6 those too heavy weigh, too", x.street(0, 8), 36);
         Check.dueThrows("P6 what 9", () -> x.street(0, 9));
         Check.dueThrows("P6 what -1", () -> x.street(0, -1));
         Check.dueThrows("P6 street 2 of two", () -> x.street(2, 0));
@@ -376,6 +380,10 @@ public final class EdgeTests {
         Check.due("P9 street 2 of two", x.dayOf(2, 0), -1);
         Check.due("P9 street -1", x.dayOf(-1, 0), -1);
         Check.due("P9 no streets", new BinsBothSides().dayOf(0, 0), -1);
+        x.dayOf(0, 3);
+        Check.streets(x, "s0:9/0");
+        Check.due("P9 as it was, when STREETS come", x.street(0, 4), 3);
+        Check.due("P9 at first, of the one that came", x.street(2, 4), 0);
     }
 
     /** "of bytes, shorts the lowest bits, with their sign; put to 0 .. 99"; "those behind it are 0"; "these first". */
@@ -482,6 +490,14 @@ public final class EdgeTests {
         Check.due("P12 the second does not fit", x.bin(0, 0, 1, 2), 1);
         Check.due("P12 nothing fits any more", x.empty(0, 0), 30);
         Check.due("P12 the row", Check.row(x), "0 0 0 2");
+        int[] what = {1, 2, 2};
+        for (int how = 0; how <= 2; how++) {
+            BinsBothSides behind = Check.town("s0:00/45");
+            behind.set(0, 5);
+            behind.empty(0, how);
+            Check.due("P12 the near one on the right, HOW " + how, behind.bin(0, 1, 0, 2), what[how]);
+            Check.due("P12 the far one on the right, HOW " + how, behind.bin(0, 1, 1, 2), how == 0 ? 2 : 1);
+        }
         BinsBothSides y = Check.town("s0:9/1");
         y.set(0, 8);
         Check.due("P12 one behind it would fit, but stays out", y.empty(0, 1), 5);
@@ -952,6 +968,26 @@ public final class EdgeTests {
         Check.due("P24 soonest() waits, too", y.soonest(1), 60 + 7 + 300);
     }
 
+    /** "as all is": LOAD 5 at X 50, where TIP is, in SECOND 509. */
+    private static void ordersWithLoad() {
+        BinsBothSides x = Check.town("s50:5/0;s50:4/0");
+        x.drive(0);
+        x.empty(0, 2);
+        x.set(0, 9);
+        Check.due("P24 it fits", Check.order(x, "1"), 8 + 300);
+        Check.due("P24 the row", Check.row(x), "1 0");
+        Check.due("P25 it fits", x.soonest(2), 8 + 300);
+        Check.due("P26 it fits", x.most(2, 509 + 308), 1);
+        Check.due("P26 one SECOND less", x.most(2, 509 + 307), 0);
+        x.set(0, 8);
+        Check.due("P24 it tips first", Check.order(x, "1"), 300 + 8 + 300);
+        Check.due("P24 the row", Check.row(x), "2 0");
+        Check.due("P25 it tips first", x.soonest(2), 300 + 8 + 300);
+        Check.due("P26 it tips first", x.most(2, 509 + 608), 1);
+        Check.due("P26 one SECOND less", x.most(2, 509 + 607), 0);
+        Check.due("P24 nothing changes", Check.state(x), "50 5 509 2010");
+    }
+
     /** "of as quick ones the least row"; "-2: TIP is shut for all; NONE: bits of none such, nothing told". */
     private static void soonest() {
         BinsBothSides x = Check.town("s10:1/0;s20:1/0;s10:1/0");
@@ -1358,6 +1394,11 @@ public final class EdgeTests {
         y.weeks(1, 2, 4);
         // 9, 5, 8, 7: none is out
         Check.due("P38 the second week goes on with R", Check.row(y), (300 + 10 - 10 + 0) + " 445");
+        BinsBothSides sides = oneMan("s0:12/30", "w*10+c*90");
+        sides.set(5, 0);
+        // p 4: draws 8, 6, 3 of left 0, left 1, right 0: the third one is of the right side
+        sides.weeks(1, 1, 4);
+        Check.due("P38 the left side, then the right", Check.row(sides), (300 + 20 + 30) + " 350");
         // from seed -1: 7, 9, 2, 6, 3, 4, 8, 1; from seed 7: 2 (R -865315532), 6, 8, 4
         x.weeks(-1, 8, 2);
         Check.due("P38 seed -1, the eighth alone", Check.row(x), "300 313");
