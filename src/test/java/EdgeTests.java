@@ -679,6 +679,26 @@ public final class EdgeTests {
         Check.due("P17 and stays done", Check.state(x), states[1]);
         undoForgets();
         undoOfBinsAndLorryAlone();
+        undoOfLeft();
+    }
+
+    /** What is out again is neither EMPTIED nor LEFT any more, and the other way round. */
+    private static void undoOfLeft() {
+        BinsBothSides x = Check.town("s0:19/20");
+        x.set(4, 8);
+        x.keep(0);
+        x.empty(0, 0);
+        x.keep(1);
+        Check.due("P17 out, EMPTIED, LEFT", x.count(4) * 100 + x.count(5) * 10 + x.count(6), 21);
+        x.undo();
+        Check.due("P17 undone", x.count(4) * 100 + x.count(5) * 10 + x.count(6), 300);
+        x.again(1);
+        Check.due("P40 as they were kept under 1", x.count(4) * 100 + x.count(5) * 10 + x.count(6), 21);
+        x.again(0);
+        Check.due("P40 as they were kept under 0", x.count(4) * 100 + x.count(5) * 10 + x.count(6), 300);
+        x.empty(0, 0);
+        x.week();
+        Check.due("P15 a new week", x.count(4) * 100 + x.count(5) * 10 + x.count(6), 300);
     }
 
     /** "BINS, LOAD, X, NOW are as ahead of it", and nothing else; so it is with again(). */
@@ -832,6 +852,14 @@ public final class EdgeTests {
         BinsBothSides v = oneMan("s0:0/1!", "c*9+1");
         Check.due("P21 a house without a bin does not count", v.line(0), 0);
         Check.due("P21 the row", Check.row(v), "11 14");
+        BinsBothSides left = Check.town("s0:999/001");
+        left.set(4, 8);
+        Check.due("P21 those that would be LEFT are out, too", left.line(0), 4);
+        Check.due("P21 none more", Check.row(left), "-1 -1");
+        left.set(1, 1);
+        Check.rule(left, "99+c*99");
+        Check.due("P21 three are LEFT quickly, the one beside the last is slow carried", left.line(0), 3);
+        Check.due("P21 the row", Check.row(left), (15 + 9 + 99 + 11) + " " + (9 + 99 + 3 * 99 + 3 * 4));
         Check.due("P21 street 1 of one", w.line(1), -1);
         Check.due("P21 street -1", w.line(-1), -1);
     }
@@ -1078,6 +1106,9 @@ public final class EdgeTests {
         y.set(0, 5);
         y.set(4, 5);
         Check.due("P27 one that is LEFT needs no room", y.tipnow(1), 0);
+        BinsBothSides up = oneMan("s10:5/0u", "20+u*9");
+        Check.due("P27 up", up.tipnow(0), 0);
+        Check.due("P27 by its best(), up as it is", Check.row(up), (500 + 300 + 400 + 33 + 700) + " " + (100 + 33 + 700));
     }
 
     // ---- crews, days
